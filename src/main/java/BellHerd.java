@@ -803,6 +803,15 @@ public final class BellHerd {
         int frame(int clause, int what) {
             return frames[clause * FRAME + what];
         }
+
+        boolean hasHead(int head) {
+            for (int i = 0; i < clauses; i++) {
+                if (frame(i, HEAD) == head) {
+                    return true;
+                }
+            }
+            return false;
+        }
     }
 
     /** What the numbers of a LAW's code mean: the operation in the low bits, what it is done with above. */
@@ -1249,13 +1258,15 @@ public final class BellHerd {
 
         final int[] left = new int[COWS];
         int cows;
+        int stands;
+        private int home;
         private final Judge judge;
         private Herd herd;
         private Law law;
+        private boolean anyFollows;
         private final int[] cellAt = new int[COWS * LEFTS];
         private final int[] gapAt = new int[COWS * LEFTS];
         private final int[] stride = new int[COWS];
-        int stands;
         /** What the LAW told of one COW with so much LEFT, by who is called and how many are HOME: 0, not asked yet. */
         private final int[] told = new int[COWS * COWS * HOMES * LEFTS];
 
@@ -1266,7 +1277,9 @@ public final class BellHerd {
         void layOut(Herd from) {
             herd = from;
             law = from.lawInForce();
+            anyFollows = law != null && law.hasHead(FOLLOWS);
             cows = from.cows;
+            home = from.homes();
             stands = 1;
             Arrays.fill(told, 0);
             for (int cow = 0; cow < cows; cow++) {
@@ -1292,10 +1305,12 @@ public final class BellHerd {
 
         void showStand(int stand) {
             int rest = stand;
+            home = 0;
             for (int cow = cows - 1; cow >= 0; cow--) {
                 int unit = Math.max(1, stride[cow]);
                 left[cow] = rest / unit;
-                rest %= unit;
+                rest -= left[cow] * unit;
+                home += left[cow] == 0 ? 1 : 0;
             }
         }
 
@@ -1313,7 +1328,7 @@ public final class BellHerd {
                 }
                 gone++;
             }
-            for (int cow = 0; cow < cows; cow++) {
+            for (int cow = 0; anyFollows && cow < cows; cow++) {
                 if (cow != called && left[cow] > 0
                         && (mannerOf(cow, called) & (BALKING | FOLLOWING)) == FOLLOWING
                         && isFree(cow, left[cow] - 1)) {
@@ -1332,6 +1347,7 @@ public final class BellHerd {
                 return false;
             }
             left[cow]--;
+            home += left[cow] == 0 ? 1 : 0;
             return true;
         }
 
@@ -1358,7 +1374,7 @@ public final class BellHerd {
         }
 
         boolean isUnguarded() {
-            return (gapsStoodIn() & ~herd.guarded) != 0;
+            return herd.gaps > 0 && (gapsStoodIn() & ~herd.guarded) != 0;
         }
 
         private boolean isFree(int cow, int many) {
@@ -1373,10 +1389,6 @@ public final class BellHerd {
 
         /** What the LAW tells now of how a COW goes: steps, BALKING, FOLLOWING. */
         private int mannerOf(int cow, int called) {
-            int home = 0;
-            for (int other = 0; other < cows; other++) {
-                home += left[other] == 0 ? 1 : 0;
-            }
             int place = ((cow * COWS + called) * HOMES + home) * LEFTS + left[cow];
             if (told[place] == 0) {
                 judge.describe(herd, cow, left[cow], called, home, 0);
@@ -1515,10 +1527,10 @@ public final class BellHerd {
                     continue;
                 }
                 int next = paper.shownStand();
-                openGaps[depth - 1] = paper.gapsStoodIn();
                 if (next == stand) {
                     continue;
                 }
+                openGaps[depth - 1] = anyGuard ? paper.gapsStoodIn() : 0;
                 if (ahead[next] != UNSEEN) {
                     learn(stand, next, openGaps[depth - 1]);
                 } else if (depth <= LONGEST) {
