@@ -32,7 +32,7 @@ public final class BellHerd {
     private static final int MOST_ROUNDS = 200;
     private static final int BILLION = 1_000_000_000;
 
-    /** A NOTE that can't be had costs as much as one more than the longest TUNE. */
+    /** What the FEWEST of a TUNE that can't be had count as: more than any TUNE can need. */
     private static final int CANT_CAST = TUNE_NOTES + 1;
 
     private static final int NOTE = 0;
