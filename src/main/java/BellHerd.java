@@ -548,8 +548,9 @@ public final class BellHerd {
         return taken(gone);
     }
 
+    /** By the COWS of the latest FOG, not those of now: BACK takes COWS away, but leaves the FOG as it is. */
     public int drawn(int cow) {
-        return herd.isCow(cow) && cow < fogCows ? fogLeft[cow] : NONE;
+        return cow < 0 || cow >= fogCows ? NONE : fogLeft[cow];
     }
 
     public int image(int k) {

@@ -1007,7 +1007,7 @@ final class PlainHerd {
     }
 
     int drawn(int cow) {
-        return isCow(cow) && in(cow, 0, fogged.size() - 1) ? fogged.get(cow) : -1;
+        return in(cow, 0, fogged.size() - 1) ? fogged.get(cow) : -1;
     }
 
     int image(int k) {

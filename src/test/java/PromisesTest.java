@@ -974,6 +974,35 @@ public final class PromisesTest {
         due("drawn(3), who came later", x.drawn(3), -1);
         x.fog(0, 201);
         due("drawn(0) behind a REFUSED one", x.drawn(0), left[0]);
+        drawnBehindBack();
+    }
+
+    /** The latest FOG is not kept by an IMAGE, so BACK changes nothing in it, even of COWS that are gone by it. */
+    private void drawnBehindBack() {
+        cows(1);
+        row(0, 0, 1, 2, 3);
+        due("image(0), one COW", x.image(0), 0);
+        x.cow(1, 1, 1, 1);
+        row(0, 1, 10, 11);
+        x.cow(2, 1, 1, 1);
+        due("image(1), three COWS", x.image(1), 0);
+        due("fog(0, 0)", x.fog(0, 0), 0);
+        x.left(0, 1);
+        due("back(0)", x.back(0), 0);
+        due("drawn(0), who is a COW still", x.drawn(0), 3);
+        due("drawn(1), who is none now", x.drawn(1), 2);
+        due("drawn(2), who is none now", x.drawn(2), 0);
+        due("drawn(3), who never was one", x.drawn(3), -1);
+        due("drawn(-1)", x.drawn(-1), -1);
+        due("of(1, 5)", x.of(1, 5), -1);
+        due("cow: another one is COW 1", x.cow(4, 1, 1, 1), 1);
+        due("drawn(1): LEFT of who was COW 1 in the FOG", x.drawn(1), 2);
+        due("fog(0, 0), two COWS", x.fog(0, 0), 0);
+        due("drawn(1)", x.drawn(1), 0);
+        due("drawn(2), who is not in the latest FOG", x.drawn(2), -1);
+        due("back(1)", x.back(1), 0);
+        due("drawn(2): a COW now, but not in the latest FOG", x.drawn(2), -1);
+        due("drawn(1) is as it was", x.drawn(1), 0);
     }
 
     private void p40and41() {
