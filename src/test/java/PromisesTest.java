@@ -1,73 +1,5 @@
-import java.nio.charset.StandardCharsets;
-
 /** Promise by promise what the document says of it: the ordinary, the edges it names, and wrong numbers. */
-public final class PromisesTest {
-    private static int wrong;
-    private static int promise;
-
-    private BellHerd x = new BellHerd();
-
-    private static void due(String call, int got, int want) {
-        if (got != want) {
-            wrong++;
-            System.out.println("promise " + promise + ": " + call + " answered " + got + ", due is " + want);
-        }
-    }
-
-    /** The TAPE has these bytes alone then. */
-    private void tape(byte[] bytes) {
-        x.end(0);
-        for (int from = 0; from < bytes.length; from += 20) {
-            int[] five = new int[5];
-            for (int i = 0; i < 20 && from + i < bytes.length; i++) {
-                five[i / 4] |= (bytes[from + i] & 255) << 24 - i % 4 * 8;
-            }
-            x.feed(five[0], five[1], five[2], five[3], five[4]);
-        }
-        due("end(" + bytes.length + ")", x.end(bytes.length), bytes.length);
-    }
-
-    private int row(int what, int of, int... bytes) {
-        byte[] row = new byte[bytes.length];
-        for (int i = 0; i < bytes.length; i++) {
-            row[i] = (byte) bytes[i];
-        }
-        tape(row);
-        return x.row(what, of);
-    }
-
-    private int law(String text) {
-        tape(text.getBytes(StandardCharsets.ISO_8859_1));
-        return x.law();
-    }
-
-    /** A LAW that can be, in FORCE in a herd that has room for it. */
-    private void rule(String text) {
-        int number = law(text);
-        due("law() of " + text + ", fault " + x.fault(), number < 0 ? number : 0, 0);
-        x.force(number);
-    }
-
-    private void faultOf(String text, int place) {
-        x = new BellHerd();
-        due("law() of " + text, law(text), place == -1 ? 0 : -6);
-        due("fault() of " + text, x.fault(), place);
-        due("count(6)", x.count(6), 0);
-        due("count(1)", x.count(1), place == -1 ? 1 : 0);
-    }
-
-    private static String times(String text, int n) {
-        return text.repeat(n);
-    }
-
-    /** So many COWS with NOTES 5, 6 .. , PACE 1, and no WAY. */
-    private void cows(int n) {
-        x = new BellHerd();
-        for (int i = 0; i < n; i++) {
-            due("cow()", x.cow(5 + i, 1, 0, 10 + i), i);
-        }
-    }
-
+public final class PromisesTest extends Trial {
     private void p1() {
         x = new BellHerd();
         for (int what = 0; what <= 11; what++) {
@@ -435,7 +367,7 @@ public final class PromisesTest {
 
     private void p18and19() {
         cows(3);
-        promise = 18;
+        about = "promise 18";
         due("order(2)", x.order(2), 1);
         due("order(0)", x.order(0), 2);
         due("order(2)", x.order(2), -3);
@@ -443,7 +375,7 @@ public final class PromisesTest {
         due("order(-1)", x.order(-1), -2);
         due("who(0, 0)", x.who(0, 0), 2);
         due("who(1, 0)", x.who(1, 0), 0);
-        promise = 19;
+        about = "promise 19";
         due("clear()", x.clear(), 2);
         due("clear()", x.clear(), 0);
         due("count(3)", x.count(3), 0);
@@ -593,7 +525,7 @@ public final class PromisesTest {
     }
 
     private void p24and25() {
-        promise = 24;
+        about = "promise 24";
         cows(2);
         row(0, 0, 1, 2);
         row(0, 1, 11, 12);
@@ -609,7 +541,7 @@ public final class PromisesTest {
         due("drive(2)", x.drive(2), 7);
         due("drive(3)", x.drive(3), -1);
         due("drive(-1)", x.drive(-1), -1);
-        promise = 25;
+        about = "promise 25";
         int[] first = {0, 1, 1, 0};
         for (int i = 0; i < 4; i++) {
             due("calls(" + i + ")", x.calls(i), first[i]);
@@ -631,7 +563,7 @@ public final class PromisesTest {
     }
 
     private void manyDrives() {
-        promise = 24;
+        about = "promise 24";
         cows(5);
         for (int cow = 0; cow < 5; cow++) {
             int[] way = new int[9];
@@ -644,13 +576,13 @@ public final class PromisesTest {
         due("drive(0)", x.drive(0), 45);
         due("drive(1)", x.drive(1), 1_000_000_000);
         due("drive(2)", x.drive(2), 9 * 9 * 9 * 9 * 9 + 9 * 9 * 9 * 9 + 9 * 9 * 9 + 9 * 9 + 9 + 1);
-        promise = 25;
+        about = "promise 25";
         for (int i = 0; i < 45; i++) {
             int want = i < 32 ? i / 8 : i < 41 ? 4 : 3 - (i - 41);
             due("calls(" + i + ")", x.calls(i), want);
         }
         due("calls(45)", x.calls(45), -1);
-        promise = 26;
+        about = "promise 26";
         x.gap(0);
         x.gap(8);
         x.gap(44);
@@ -696,7 +628,7 @@ public final class PromisesTest {
     }
 
     private void p27and28() {
-        promise = 27;
+        about = "promise 27";
         cows(4);
         x.put(3, 0, 5);
         row(1, 1, 6, 5, 6, 5, 5, 9);
@@ -714,7 +646,7 @@ public final class PromisesTest {
         due("count(3)", x.count(3), 2);
         due("lead(0) without NOTES", x.lead(0), 0);
         due("count(3)", x.count(3), 0);
-        promise = 28;
+        about = "promise 28";
         due("rung(1)", x.rung(1), 0);
         due("rung(0) without NOTES", x.rung(0), 1);
         row(1, 2, 7, 5);
@@ -728,7 +660,7 @@ public final class PromisesTest {
     }
 
     private void p29to31() {
-        promise = 29;
+        about = "promise 29";
         cows(4);
         row(1, 0, 8, 6);
         due("recast(0, 0)", x.recast(0, 0), 0);
@@ -736,7 +668,7 @@ public final class PromisesTest {
         row(1, 0, 9, 9, 6);
         due("recast(0, 0)", x.recast(0, 0), 2);
         due("recast(0, 1)", x.recast(0, 1), 6);
-        promise = 30;
+        about = "promise 30";
         int[] first = {0, 2, 1};
         for (int i = 0; i < 3; i++) {
             due("hoof(0, " + i + ")", x.hoof(0, i), first[i]);
@@ -746,7 +678,7 @@ public final class PromisesTest {
         due("hoof(4, 0)", x.hoof(4, 0), -1);
         due("hoof(-1, 0)", x.hoof(-1, 0), -1);
         due("hoof(1, 0) without NOTES", x.hoof(1, 0), -1);
-        promise = 31;
+        about = "promise 31";
         due("cast(0)", x.cast(0), 2);
         int[] notes = {9, 6, 9, 8};
         for (int i = 0; i < 4; i++) {
@@ -760,7 +692,7 @@ public final class PromisesTest {
         due("cast(2): all are higher", x.cast(2), -3);
         row(1, 3, 20, 20, 20, 20, 20, 20);
         due("cast(3): too many NOTES", x.cast(3), -3);
-        promise = 29;
+        about = "promise 29";
         due("recast(2, 0): all are higher", x.recast(2, 0), -1);
         due("recast(2, 1): all are higher", x.recast(2, 1), 0);
         due("recast(3, 0): too many NOTES", x.recast(3, 0), -1);
@@ -850,7 +782,7 @@ public final class PromisesTest {
     }
 
     private void p35and36() {
-        promise = 35;
+        about = "promise 35";
         x = new BellHerd();
         due("ear(24, 0)", x.ear(24, 0), -1);
         due("ear(-1, 0)", x.ear(-1, 0), -1);
@@ -862,7 +794,7 @@ public final class PromisesTest {
         due("ear(0, 0)", x.ear(0, 0), -5);
         due("ear(0, 10)", x.ear(0, 10), -1);
         due("count(4)", x.count(4), 20);
-        promise = 36;
+        about = "promise 36";
         due("deaf()", x.deaf(), 20);
         due("deaf()", x.deaf(), 0);
         due("ear(0, 0)", x.ear(0, 0), 1);
@@ -919,25 +851,25 @@ public final class PromisesTest {
     }
 
     private void p38and39() {
-        promise = 38;
+        about = "promise 38";
         cows(3);
         due("fog(-1, 0)", x.fog(-1, 0), -1);
         due("fog(1000001, 0)", x.fog(1_000_001, 0), -1);
         due("fog(0, -1)", x.fog(0, -1), -1);
         due("fog(0, 201)", x.fog(0, 201), -1);
-        promise = 39;
+        about = "promise 39";
         due("drawn(0) without FOG", x.drawn(0), -1);
         row(0, 0, 1, 2, 3, 4);
         row(0, 2, 3, 9);
-        promise = 38;
+        about = "promise 38";
         due("fog(1000000, 0)", x.fog(1_000_000, 0), 0);
-        promise = 39;
+        about = "promise 39";
         due("drawn(0)", x.drawn(0), 4);
         due("drawn(1)", x.drawn(1), 0);
         due("drawn(2)", x.drawn(2), 2);
         due("drawn(3)", x.drawn(3), -1);
         due("drawn(-1)", x.drawn(-1), -1);
-        promise = 38;
+        about = "promise 38";
         // 0 draws 12345: 0, 13616 * 1103 + 12345 and so on, by hand with the document's numbers
         long s = 0;
         int[] left = {4, 2};
@@ -969,7 +901,7 @@ public final class PromisesTest {
         due("drawn(0)", x.drawn(0), left[0]);
         due("drawn(2)", x.drawn(2), left[1]);
         due("of(0, 5): on paper alone", x.of(0, 5), 4);
-        promise = 39;
+        about = "promise 39";
         x.cow(1, 1, 1, 1);
         due("drawn(3), who came later", x.drawn(3), -1);
         x.fog(0, 201);
@@ -1006,11 +938,11 @@ public final class PromisesTest {
     }
 
     private void p40and41() {
-        promise = 40;
+        about = "promise 40";
         cows(2);
         due("image(2)", x.image(2), -1);
         due("image(-1)", x.image(-1), -1);
-        promise = 41;
+        about = "promise 41";
         due("back(2)", x.back(2), -1);
         due("back(-1)", x.back(-1), -1);
         due("back(0)", x.back(0), -2);
@@ -1023,7 +955,7 @@ public final class PromisesTest {
         rule("steps 2");
         x.order(1);
         x.ear(5, 5);
-        promise = 40;
+        about = "promise 40";
         due("image(1)", x.image(1), 0);
         x.cow(1, 1, 1, 1);
         x.put(0, 0, 23);
@@ -1041,7 +973,7 @@ public final class PromisesTest {
         due("image(0)", x.image(0), 0);
         x.feed(0, 0, 0, 0, 0);
         int[] fogged = {x.drawn(0), x.drawn(1)};
-        promise = 41;
+        about = "promise 41";
         due("back(1)", x.back(1), 0);
         asInImage1();
         due("count(6): the TAPE is not kept", x.count(6), 20);
@@ -1162,7 +1094,7 @@ public final class PromisesTest {
 
     /** What LAWS tell, beside what single promises show of it. */
     private void laws() {
-        promise = 22;
+        about = "promise 22";
         String[] steps = {"2 + 3 * 0", "7 / 2 - 1", "[0 - 7] / 2 + 5", "[1 + 1] * [2 - 1]", "10 - 4 - 4",
             "12 / 3 / 2", "2 if 1 < 2", "2 if not 2 < 1", "2 if 1 = 1 or 1 / 0 = 1", "2 if not (1 = 2 and 1 / 0 = 1)",
             "2 if 1 = 2 or 1 = 1 and 2 > 1", "2 if (1 = 1 or 1 = 2) and not not 3 > 2", "2; steps 1 if 1 / 0 = 1 or 1 = 1",
@@ -1192,46 +1124,43 @@ public final class PromisesTest {
         Runnable[] of = {this::p1, this::p2, this::p3, this::p4, this::p5, this::p6, this::p7, this::p8, this::p9,
             this::p10, this::p11, this::p12, this::p13, this::p14, this::p15, this::p16, this::p17};
         for (int i = 0; i < of.length; i++) {
-            promise = single[i];
+            about = "promise " + single[i];
             of[i].run();
         }
         p18and19();
-        promise = 20;
+        about = "promise 20";
         p20();
-        promise = 21;
+        about = "promise 21";
         p21();
-        promise = 22;
+        about = "promise 22";
         p22();
-        promise = 23;
+        about = "promise 23";
         p23();
         p24and25();
-        promise = 26;
+        about = "promise 26";
         p26();
         p27and28();
         p29to31();
-        promise = 32;
+        about = "promise 32";
         p32();
-        promise = 33;
+        about = "promise 33";
         p33();
-        promise = 34;
+        about = "promise 34";
         p34();
         p35and36();
-        promise = 37;
+        about = "promise 37";
         p37();
         p38and39();
         p40and41();
-        promise = 42;
+        about = "promise 42";
         p42();
-        promise = 43;
+        about = "promise 43";
         p43();
         laws();
     }
 
     public static void main(String[] args) {
         new PromisesTest().all();
-        System.out.println(wrong == 0 ? "all promises are kept" : wrong + " answers are not as due");
-        if (wrong != 0) {
-            System.exit(1);
-        }
+        end("all promises are kept");
     }
 }
