@@ -293,6 +293,7 @@ public final class BoundariesTest extends Trial {
             faultOf("rank 1" + times("+1", 48) + " if 1=1", 108);
             faultOf("rank 1" + times("+1", 47) + ";rank 1;loud 1;loud 1", 120);
         });
+        sentence("50 PARTS that are NUMBERS and words", this::partsOfEachLaw);
         sentence("8 brackets of both kinds within one another (FAULT at the 9th) at most", this::brackets);
         sentence("the first TOKEN that can't go on there (the end's: the TEXT's length)", this::ends);
         sentence("Beyond 1,000,000,000 either way, or divided by 0, a SUM, a TEST is BROKEN", this::broken);
@@ -351,6 +352,10 @@ public final class BoundariesTest extends Trial {
         faultOf(times(" ", 394) + "balks;", 400);
         faultOf("balks if " + times("not ", 97) + "1=1", -1);
         faultOf("balks if 1=1" + times(" or 1=1", 24), -1);
+        faultOf(times(" ", 396) + "balk", 396);
+        faultOf(times(" ", 399) + "f", 399);
+        faultOf(times(" ", 391) + "rank 1000", -1);
+        faultOf(times(" ", 391) + "rank 1001", 396);
         faultOf(times("a", 400), 0);
         faultOf(times("[", 400), 0);
         faultOf("rank " + times("[", 395), 13);
@@ -360,7 +365,14 @@ public final class BoundariesTest extends Trial {
 
     private void tokens() {
         faultOf("balks", -1);
-        faultOf("balksb", 0);
+        faultOf("balksa", 0);
+        faultOf("balksz", 0);
+        faultOf("abalks", 0);
+        faultOf("zbalks", 0);
+        faultOf("steps 1a", 7);
+        faultOf("steps 1z", 7);
+        faultOf("steps 190", -1);
+        faultOf("steps 1" + (char) ('9' + 1), 7);
         faultOf("balk", 0);
         faultOf("bal ks", 0);
         faultOf("steps2", -1);
@@ -385,6 +397,28 @@ public final class BoundariesTest extends Trial {
         rule("steps0003");
         row(0, 0, 1, 2, 3, 4);
         due("call(0) by steps0003", x.call(0), 3);
+    }
+
+    /** What one LAW had, and what one that could not be read had, is not counted in the next. */
+    private void partsOfEachLaw() {
+        cows(2);
+        for (int i = 0; i < 6; i++) {
+            due("one of 51", law("rank 1" + times("+1", 50)), -6);
+            due("one of 50", law("rank " + i + times("+cow", 49)), i);
+            due("thirteen CLAUSES", law("balks" + times(";balks", 12)), i < 5 ? -6 : -5);
+        }
+        for (int i = 0; i < 6; i++) {
+            x.force(i);
+            due("who(0, 1)", x.who(0, 1), 0);
+        }
+        cows(2);
+        for (int i = 0; i < 6; i++) {
+            due("law", law("rank " + (i % 2 == 0 ? "0-49*cow" : "cow") + times("+1", 47)), i);
+        }
+        for (int i = 0; i < 6; i++) {
+            x.force(i);
+            due("who(0, 1) by LAW " + i, x.who(0, 1), i % 2 == 0 ? 1 : 0);
+        }
     }
 
     private void brackets() {
@@ -513,6 +547,22 @@ public final class BoundariesTest extends Trial {
         tells("7; rank 8 if not (1=1 or 1/0=1) or 1=1", 8);
         tells("7; rank 8 if 1=1", 8);
         tells("7; rank 8 if 1=2", 7);
+        tells("7; rank 8 if not 1=1", 7);
+        tells("7; rank 8 if not 1=2", 8);
+        tells("7; rank 8 if not 1<2", 7);
+        tells("7; rank 8 if not 2<1", 8);
+        tells("7; rank 8 if not 2>1", 7);
+        tells("7; rank 8 if not 1>2", 8);
+        tells("7; rank 8 if not not 1=1", 8);
+        tells("7; rank 8 if not not 1=2", 7);
+        tells("7; rank 8 if not not not 1=1", 7);
+        tells("7; rank 8 if not (not 1=1)", 8);
+        tells("7; rank 8 if not (not 1=2)", 7);
+        tells("7; rank 8 if not 1=1 or 1=1", 8);
+        tells("7; rank 8 if not (1=1 or 1=1)", 7);
+        tells("7; rank 8 if not 1=1 and 1=2 or 1=1", 8);
+        tells("7; rank 8 if 1=1 or 1=1 and 1=2", 8);
+        tells("7; rank 8 if (1=1 or 1=1) and 1=2", 7);
         tells("7; rank 1/0 if 1=1", 7);
         tells("7; rank 1/0 if 1=2", 7);
         tells("7; rank 8 if not 1=2 and 1=2", 7);
@@ -589,6 +639,7 @@ public final class BoundariesTest extends Trial {
             due("drive(0), all are HOME", x.drive(0), 0);
         });
         sentence("A DRIVE is a row of CALLS that can be, behind which all of the ORDER are HOME.", this::driveEdges);
+        sentence("A DRIVE is a row of CALLS that can be", this::drivesOfCallsThatCanBe);
         sentence("SHORTEST DRIVES have the fewest CALLS; the FIRST of them as a row of COWS.", () -> {
             cows(3);
             row(0, 0, 1, 2);
@@ -849,6 +900,53 @@ public final class BoundariesTest extends Trial {
         }
     }
 
+    private void drive(String when, int fewest, int many, int stands, int... first) {
+        due("drive(0), " + when, x.drive(0), fewest);
+        due("drive(1), " + when, x.drive(1), many);
+        due("drive(2), " + when, x.drive(2), stands);
+        for (int i = 0; i < first.length; i++) {
+            due("calls(" + i + "), " + when, x.calls(i), first[i]);
+        }
+        due("calls(" + Math.max(fewest, 0) + "), " + when, x.calls(Math.max(fewest, 0)), -1);
+    }
+
+    private void drivesOfCallsThatCanBe() {
+        cows(2);
+        x.put(0, 2, 3);
+        x.put(1, 2, 2);
+        row(0, 0, 1, 2);
+        row(0, 1, 11, 12, 13);
+        x.order(1);
+        x.order(0);
+        drive("a longer step does not end ahead of HOME", 3, 1, 4, 1, 1, 0);
+        x.gap(50);
+        x.gap(13);
+        drive("into a GAP", -1, 0, 1);
+        x.guard(1);
+        drive("another one is GUARDED", -1, 0, 1);
+        x.guard(2);
+        drive("into a GUARDED GAP", 3, 1, 4, 1, 1, 0);
+        x.guard(0);
+        x.left(1, 2);
+        drive("to HOME at once, beside a GAP", 2, 1, 3, 1, 0);
+        x.put(1, 2, 1);
+        x.left(1, 1);
+        drive("out of a GAP", 2, 1, 3, 1, 0);
+
+        cows(2);
+        row(0, 0, 1, 2, 3);
+        row(0, 1, 11, 12);
+        x.order(0);
+        x.order(1);
+        rule("balks if cow = 1 and home = 0; steps 3 if cow = 1 and home = 1; steps 2 if cow = 0 and home = 1");
+        drive("by who is HOME then", 4, 1, 5, 0, 0, 0, 1);
+        x.left(1, 0);
+        drive("one is HOME already", 2, 1, 3, 0, 0);
+        rule("steps 0; steps left if left < 3 and called = cow and cow = 0; steps 1 if left = 3; follows if called = 0");
+        x.left(1, 2);
+        drive("by who is called, and LEFT then", 2, 1, 3, 0, 0);
+    }
+
     private void dogs() {
         due("dogs() without all", x.dogs(), 0);
         cows(1);
@@ -868,6 +966,15 @@ public final class BoundariesTest extends Trial {
         due("dogs(), no GAPS GUARDED let one be", x.dogs(), -1);
         x.left(0, 0);
         due("dogs(), all are HOME", x.dogs(), 0);
+        for (int i = 0; i < 5; i++) {
+            cows(1);
+            row(0, 0, 1, 2);
+            x.order(0);
+            for (int j = 0; j < 5; j++) {
+                x.gap(j == i ? 2 : 50 + j);
+            }
+            due("dogs(), GAP " + i + " alone", x.dogs(), 1 << i);
+        }
         choice(0, 2);
         choice(0, 3);
         choice(1, 2, 3);
@@ -1003,6 +1110,21 @@ public final class BoundariesTest extends Trial {
             row(1, tune, 9, 9, 9, 9);
         }
         due("sold(): one that can't be had is more than all that can be recast", x.sold(), 1);
+        soldOf(4, new int[] {0, 1, 6, 0, 8}, new int[][] {{8, 2}, {8, 4, 1, 7}, {3, 7, 5, 7}, {2, 8}});
+        soldOf(2, new int[] {0, 0, 7, 1, 1}, new int[][] {{6, 7, 6}, {0, 0, 7, 8, 4, 1}, {0, 7, 6, 7}, {2, 4, 4, 2}});
+        soldOf(2, new int[] {0, 1, 7, 1, 0}, new int[][] {{8, 0, 1}, {2, 2, 2, 6}, {7, 5, 4, 2}, {4}});
+    }
+
+    /** Herds of which another COW would be sold, if one that can't be had counted 7, 6 or 5 instead of 13. */
+    private void soldOf(int want, int[] notes, int[][] tunes) {
+        x = new BellHerd();
+        for (int note : notes) {
+            x.cow(note, 1, 0, 0);
+        }
+        for (int tune = 0; tune < tunes.length; tune++) {
+            row(1, tune, tunes[tune]);
+        }
+        due("sold(): one that can't be had counts 13", x.sold(), want);
     }
 
     private void termsFour() {
@@ -1089,12 +1211,14 @@ public final class BoundariesTest extends Trial {
         sentence("and heard as loud, 0 .. 100 (else the nearest; 50 without)", this::loudEdges);
         sentence("so many ROUNDS (0 .. 200), on paper from LEFT as it is: s is the SEED (0 .. 1,000,000)", this::fogEdges);
         sentence("s becomes (s times 1103 and 12345) modulo 1,000,003, it is s modulo n", this::fogDraws);
+        sentence("ROUND by ROUND, COW by COW that is not HOME a DRAW of 3", this::fogOfAll);
         sentence("0 it goes back by a CELL of its WAY, if there is one and nobody stands there; 1 it stays; 2 it goes on by one, "
                 + "if nobody stands there, and it would not be HOME by it", this::fogSteps);
         sentence("a byte that can't be (for a WAY: a CELL that is there already too), or for which there is no room, is LOST: "
                 + "left out", this::lostEdges);
         sentence("IMAGES 0, 1 keep all but the TAPE, FAULT, LOST, the latest FOG", this::imagesKeep);
         sentence("BACK to one all that it keeps is as it was then (IMAGES stay)", this::imagesStay);
+        sentence("BACK to one all that it keeps is as it was then", this::asItWasThen);
     }
 
     private void slips(String heard, String tune, int fewest, int ways) {
@@ -1281,6 +1405,46 @@ public final class BoundariesTest extends Trial {
         due("drawn(1)", x.drawn(1), 1);
     }
 
+    /** Five at once, on WAYS of their own, and fewer behind BACK. */
+    private void fogOfAll() {
+        herdWithWays(9, 9, 9, 9, 9);
+        for (int rounds : new int[] {1, 2, 200}) {
+            fogOf(rounds, 9, 9, 9, 9, 9);
+        }
+        cows(1);
+        row(0, 0, from(1, 9));
+        x.left(0, 5);
+        x.image(0);
+        for (int cow = 1; cow < 5; cow++) {
+            x.cow(1, 1, 1, 1);
+            row(0, cow, from(cow * 9 + 1, 9));
+            x.left(cow, 5);
+        }
+        fogOf(7, 5, 5, 5, 5, 5);
+        x.back(0);
+        fogOf(7, 5);
+    }
+
+    private void fogOf(int rounds, int... left) {
+        long s = 4;
+        int gone = 0;
+        for (int i = 0; i < rounds * left.length; i++) {
+            int cow = i % left.length;
+            s = (s * 1103 + 12345) % 1_000_003;
+            if (s % 3 == 0 && left[cow] < 9) {
+                left[cow]++;
+                gone++;
+            } else if (s % 3 == 2 && left[cow] > 1) {
+                left[cow]--;
+                gone++;
+            }
+        }
+        due("fog(4, " + rounds + ")", x.fog(4, rounds), gone);
+        for (int cow = 0; cow < left.length; cow++) {
+            due("drawn(" + cow + ")", x.drawn(cow), left[cow]);
+        }
+    }
+
     private void lostEdges() {
         due("lost() ahead of any", x.lost(), 0);
         cows(1);
@@ -1333,6 +1497,77 @@ public final class BoundariesTest extends Trial {
         due("back(1)", x.back(1), 0);
         due("count(7)", x.count(7), 8);
         due("count(8)", x.count(8), 1);
+    }
+
+    private void asItWasThen() {
+        x.image(0);
+        fill(0);
+        x.image(1);
+        asFilled(0);
+        x.back(0);
+        due("count(0)", x.count(0), 0);
+        due("count(2)", x.count(2), 0);
+        due("wind(0)", x.wind(0), 0);
+        fill(1);
+        asFilled(1);
+        x.image(0);
+        x.back(1);
+        asFilled(0);
+        x.back(0);
+        asFilled(1);
+        x.back(1);
+        asFilled(0);
+    }
+
+    /** Something of all that an IMAGE keeps, in two ways. */
+    private void fill(int by) {
+        for (int cow = 0; cow < 3; cow++) {
+            x.cow(4 + cow + by, 1 + by, 2 + by, 3 + by);
+        }
+        x.put(2, 1, 1 - by);
+        row(0, 0, 10 + by, 11 + by, 12 + by);
+        x.left(0, 2 - by);
+        for (int tune = 0; tune < 4; tune++) {
+            row(1, tune, tune + by, 20);
+        }
+        row(2, 0, 15 + by, 14 + by);
+        x.wind(1 + by);
+        x.gap(30 + by);
+        x.gap(40 + by);
+        x.guard(1 + by);
+        rule("rank 0; loud heard + by".replace("by", String.valueOf(by)) + "; loud 1 if left = 0");
+        law("balks");
+        x.order(1 + by);
+        x.order(0);
+        x.ear(4 + by, 3 + by);
+        x.ear(4 + by, 7 - by);
+    }
+
+    private void asFilled(int by) {
+        for (int cow = 0; cow < 3; cow++) {
+            int[] of = {4 + cow + by, cow == 2 ? 1 - by : 0, 1 + by, 2 + by, 3 + by};
+            for (int what = 0; what < 5; what++) {
+                due("of(" + cow + ", " + what + ")", x.of(cow, what), of[what]);
+            }
+        }
+        for (int i = 0; i < 3; i++) {
+            due("cell(0, " + i + ")", x.cell(0, i), 10 + i + by);
+        }
+        due("of(0, 5)", x.of(0, 5), 2 - by);
+        for (int tune = 0; tune < 4; tune++) {
+            due("note(" + tune + ", 0)", x.note(tune, 0), tune + by);
+        }
+        due("note(4, 1)", x.note(4, 1), 14 + by);
+        due("wind", x.wind(1 + by), 1 + by);
+        due("gap(30) or gap(31)", x.gap(30 + by), -3);
+        due("gap(40) or gap(41)", x.gap(40 + by), -3);
+        due("guard", x.guard(1 + by), 1 + by);
+        due("count(1)", x.count(1), 2);
+        due("count(12)", x.count(12), 0);
+        due("who(0, 0)", x.who(0, 0), 1 + by);
+        due("who(1, 0)", x.who(1, 0), 0);
+        int heard = (3 + by + by) * (7 - by + by);
+        due("likely(0, 0)", x.likely(0, 0), 1_000_000 / (3 * heard + 1));
     }
 
     private void imagesStay() {
