@@ -505,6 +505,8 @@ public final class BoundariesTest extends Trial {
         tells("7; rank [" + below + "]*[0-1]", billion);
         tells("7; rank [" + below + "]*2", 7);
         tells("7; rank " + billion + "/1000*999", "999*1000*1000");
+        tells("7; rank 5/1", 5);
+        tells("7; rank 5/[0-1]", -5);
         tells("7; rank 5/0", 7);
         tells("7; rank 0/0", 7);
         tells("7; rank 5/[3-3]", 7);
