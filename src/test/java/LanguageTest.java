@@ -54,6 +54,46 @@ public final class LanguageTest {
         }
     }
 
+    /** The document's face, line by line: each stands in the class, and nothing else is public in it. */
+    private static void faceOfDocument(Path project) throws IOException {
+        String document = Files.readString(project.resolve("../shared/DOC.md"));
+        Matcher block = Pattern.compile("```java\n(.*?)```", Pattern.DOTALL).matcher(document);
+        rule(1, block.find(), "the document has no face");
+        Set<String> asked = new TreeSet<>();
+        Matcher line = Pattern.compile("    public int (\\w+)\\((.*)\\);").matcher(block.group(1));
+        while (line.find()) {
+            asked.add(line.group(1) + " " + (line.group(2).isEmpty() ? 0 : line.group(2).split(",").length));
+        }
+        Set<String> has = new TreeSet<>();
+        for (Method m : BellHerd.class.getDeclaredMethods()) {
+            if (Modifier.isPublic(m.getModifiers())) {
+                has.add(m.getName() + " " + m.getParameterCount());
+                for (Class<?> taken : m.getParameterTypes()) {
+                    rule(1, taken == int.class, m + " takes an int");
+                }
+            }
+        }
+        rule(1, asked.size() == 42 && asked.equals(has), "the document asks for " + asked + ", there is " + has);
+        rule(1, BellHerd.NONE == -1, "NONE is " + BellHerd.NONE);
+    }
+
+    private static void calls(Path file) throws IOException {
+        SourceCalls calls = SourceCalls.of(file);
+        Pattern fine = Pattern.compile("java\\.lang\\.(Math|Integer|Long)\\.(compare|max|min|abs|bitCount|floorDiv|floorMod)"
+                + "|java\\.lang\\.String\\.(length|charAt|isEmpty|equals|indexOf|substring|toCharArray)"
+                + "|java\\.lang\\.System\\.arraycopy|java\\.util\\.Arrays\\.(copyOf|copyOfRange|fill)");
+        for (String used : calls.library) {
+            rule(4, fine.matcher(used).matches(), used + " is not listed");
+        }
+        rule(4, calls.library.contains("java.lang.System.arraycopy"), "the calls of the library are not seen");
+        int recursive = 0;
+        for (String method : calls.own.keySet()) {
+            rule(11, calls.depth(method) <= 8, method + " goes " + calls.depth(method) + " deep");
+            recursive += calls.isRecursive(method) ? 1 : 0;
+        }
+        rule(8, recursive == 9, recursive + " methods call themselves, not the eight of Reader and giveFrom alone");
+    }
+
     private static void insides() {
         List<Class<?>> all = new ArrayList<>(Arrays.asList(BellHerd.class.getDeclaredClasses()));
         rule(11, all.size() < 12, "there are " + all.size() + " classes inside");
@@ -82,8 +122,7 @@ public final class LanguageTest {
         }
     }
 
-    private static void text() throws IOException {
-        Path file = Path.of(System.getProperty("project", "."), "src/main/java/BellHerd.java");
+    private static void text(Path file) throws IOException {
         String source = Files.readString(file);
         for (char sign : source.toCharArray()) {
             rule(4, sign < 128, "a sign beyond 127: " + (int) sign);
@@ -118,9 +157,13 @@ public final class LanguageTest {
     }
 
     public static void main(String[] args) throws IOException {
+        Path project = Path.of(System.getProperty("project", "."));
+        Path file = project.resolve("src/main/java/BellHerd.java");
         face();
+        faceOfDocument(project);
         insides();
-        text();
+        text(file);
+        calls(file);
         System.out.println(wrong == 0 ? "the language is kept to" : wrong + " rules are broken");
         if (wrong != 0) {
             System.exit(1);
